@@ -1583,7 +1583,7 @@ public final class TrainCollector {
             if (stays == 0) {
                 stayTrain = to;
             }
-            put(y.train, t, to);
+            // Until then aboard tells its train.
             put(y.car, t, STAYING);
             put(y.place, t, stays);
             stays++;

@@ -58,6 +58,9 @@ public final class ModelTest {
 
     private void play() {
         boolean good = tell();
+        if (odds(5)) {
+            good = good && crowd();
+        }
         int more = 10 + below(50);
         for (int i = 0; i < more && good && calls < 480; i++) {
             good = act() && look();
@@ -278,6 +281,25 @@ public final class ModelTest {
             default:
                 return odds(60) ? on() : true;
         }
+    }
+
+    /** Many things, most of them live, as far as there is room. */
+    private boolean crowd() {
+        boolean good = true;
+        for (int i = 0; i < 45 && good; i++) {
+            int size = 1 + below(odds(50) ? 3 : 9);
+            int r = below(3);
+            int old = m.root(r);
+            int t = m.make(size, r);
+            good = same("make(" + size + ", " + r + ")", x.make(size, r), t);
+            if (t >= 0 && old >= 0 && odds(95)) {
+                int k = below(4);
+                good &= same("aim(3, " + old + ")", x.aim(3, old), m.aim(3, old));
+                good &= same("set(" + t + ", " + k + ", " + old + ")", x.set(t, k, old), m.set(t, k, old));
+            }
+        }
+        calls += 135;
+        return good && look();
     }
 
     private boolean meet() {

@@ -14,6 +14,9 @@ public final class PromiseTest {
     private static final String SIX = "units 10;thing a size 4;thing b size 4;thing c size 6;next;thing d size 5;"
         + "thing e size 5;thing f size 3;link a to b;link b to a;link d to c;link c to e;root d;link f to f;churn 50;";
 
+    private static final String LATE =
+        "units 8;thing a size 3;thing b size 2;root a;root b;pops step=19 and size>3;";
+
     private static void due(String call, long got, long want) {
         if (got != want) {
             wrong++;
@@ -117,6 +120,10 @@ public final class PromiseTest {
         due("feed beyond 1600", x.feed(0, 0, 0, 0, 0), NONE);
         due("status(0)", x.status(0), 1);
         due("end(1600)", x.end(1600), true);
+        x.end(1581);
+        due("feed to 1601", x.feed(0, 0, 0, 0, 0), NONE);
+        x.end(1580);
+        due("feed to 1600", x.feed(0, 0, 0, 0, 0), 1600);
         // The highest byte is first: "unit", "s 9;" and blanks.
         x.end(0);
         due("feed", x.feed('u' << 24 | 'n' << 16 | 'i' << 8 | 't', 's' << 24 | ' ' << 16 | '9' << 8 | ';', 0x20202020,
@@ -171,6 +178,19 @@ public final class PromiseTest {
         due("a root is none", x.root(0), NONE);
         x.make(1, 0);
         due("an empty train is none", x.thing(1, 1), 0);
+        told(FUTILE);
+        x.steps(1);
+        told(FUTILE);
+        due("none is marked", x.thing(1, 7), 0);
+        due("none is old", x.thing(1, 6), 0);
+        String sum = "1" + "+1".repeat(40);
+        for (int i = 0; i < 9; i++) {
+            told("units 9;thing a size 3;root a;costs " + sum + ";pops " + sum + "<" + sum + ";");
+        }
+        due("the ninth text", x.later(1, 3), 41);
+        sum = "1" + "+1".repeat(700);
+        told("units 9;thing a size 3;root a;costs " + sum + "-700+" + "min(0,1)*".repeat(10) + "1;");
+        due("a long text", x.later(1, 3), 1);
     }
 
     private static void faultsOfWords() {
@@ -650,6 +670,31 @@ public final class PromiseTest {
         put(2, 2, 2);
         x.meet();
         due("beyond 999 by none", x.sizes(0, -1), 0);
+        told("units 99;thing a size 4;root a;");
+        due("of 99 units", x.sizes(0, -1), 99);
+        due("the last of 99", x.sizes(0, 98), 99);
+        // In one car with b, but at the 20th step what is above 3 stays in a car of its own.
+        told(LATE);
+        put(20, 1, 2);
+        x.meet();
+        due("by 20 steps", x.sizes(0, -1), 5);
+        due("by 20 steps", x.sizes(0, 0), 4);
+        put(19, 1, 2);
+        x.meet();
+        due("by 19 steps", x.sizes(0, -1), 2);
+        due("by 19 steps", x.sizes(0, 1), 8);
+    }
+
+    private static void sizesOfMany() {
+        promise = 22;
+        crowd();
+        put(0, 2, 40);
+        x.meet();
+        due("40 things now", x.sizes(39, -1), 8);
+        put(1, 2, 40);
+        x.meet();
+        due("none of them falls", x.sizes(39, -1), 8);
+        due("what tells most", x.tells(39, 2) >= 1 && x.tells(39, 2) <= 8, true);
     }
 
     private static void tells() {
@@ -682,6 +727,12 @@ public final class PromiseTest {
         due("one step comes", x.tells(0, 0), 1);
         x.steps(1);
         due("no step comes", x.tells(0, 0), NONE);
+        told(LATE);
+        due("the 20th step", x.tells(0, 0), 20);
+        due("by cars", x.tells(0, 1), 1);
+        due("4 .. 8", x.tells(0, 2), 5);
+        told("units 99;thing a size 4;root a;");
+        due("all of 99", x.tells(0, 2), 99);
     }
 
     private static void steps() {
@@ -706,6 +757,13 @@ public final class PromiseTest {
         rides(0, 0, 0, 0);
         rides(1, 1, 0, 0);
         due("marked no more", x.thing(1, 7), 0);
+        told(FUTILE);
+        x.steps(1);
+        x.aim(0, NONE);
+        due("a marked one falls with its train", x.steps(1), 2);
+        x.make(1, 0);
+        due("make", x.make(1, 1), 1);
+        due("a new one is not marked", x.thing(1, 7), 0);
         told("units 8;");
         for (int i = 0; i < 16; i++) {
             x.steps(60);
@@ -1086,6 +1144,35 @@ public final class PromiseTest {
         due("no things", x.on(), true);
         due("no trains", x.has(3), 0);
         due("letters stay", x.letter(0, 0), 1);
+        told("units 8;thing a size 8;root a;");
+        int[] small = imageOf(x);
+        told("units 8;thing a size 8;thing b size 8;thing c size 8;link a to b;link b to c;root c;");
+        x.steps(1);
+        due("holder(0)", x.holder(0), NONE);
+        put(small);
+        due("fewer cars", x.on(), true);
+        due("cars", x.has(4), 1);
+        due("cars", x.train(0, 0), 1);
+        due("none is marked", x.thing(0, 7), 0);
+        begin(34);
+        crowd();
+        due("of 40 things", x.image(), 411);
+        int[] most = imageOf(x);
+        due("it is checked", most[410], checked(most.clone())[410]);
+        x.steps(5);
+        put(most);
+        due("of 40 things", x.on(), true);
+        due("40 things", x.has(1), 40);
+        due("what they tell", x.tells(0, 2) > 0, true);
+    }
+
+    /** 40 things of one unit, each with a link to the one made before. */
+    private static void crowd() {
+        told("units 8;");
+        for (int i = 0; i < 40; i++) {
+            due("make", x.make(1, i % 2), i);
+            due("set", i == 0 || x.set(i, 0, i - 1), true);
+        }
     }
 
     private static void status() {
@@ -1152,6 +1239,7 @@ public final class PromiseTest {
         odds();
         meet();
         sizes();
+        sizesOfMany();
         tells();
         steps();
         rulesOfSteps();
