@@ -1377,8 +1377,12 @@ public final class TrainCollector {
                 count += roots[r] == t ? 1 : 0;
             }
             long sources = maskAt(from, t) & ~group;
-            for (int i = 0; i < THINGS * LINKS && sources != 0L; i++) {
-                count += links[i] == t && in(sources, i / LINKS) ? 1 : 0;
+            for (int n = 0; n < THINGS && sources != 0L; n++) {
+                int first = lowest(sources) * LINKS;
+                sources &= sources - 1L;
+                for (int k = 0; k < LINKS; k++) {
+                    count += at(links, first + k) == t ? 1 : 0;
+                }
             }
             return count;
         }
@@ -1523,23 +1527,15 @@ public final class TrainCollector {
         }
 
         private int firstBy(Yard y, int r) {
-            for (int i = 0; i < waits && i < THINGS; i++) {
+            long able = r == BY_ROOT ? left & rooted : r == BY_MARK ? left & y.marked : left;
+            long others = r == BY_TRAIN ? ~aboard[0] : aboard[0] & ~left;
+            for (int i = 0; i < waits && i < THINGS && able != 0L; i++) {
                 int t = waiting[i];
-                if (in(left, t) && mustGo(y, t, r)) {
+                if (in(able, t) && (r <= BY_MARK || (maskAt(y.from, t) & others) != 0L)) {
                     return t;
                 }
             }
             return NONE;
-        }
-
-        private boolean mustGo(Yard y, int t, int r) {
-            long sources = maskAt(y.from, t);
-            switch (r) {
-                case BY_ROOT: return in(rooted, t);
-                case BY_MARK: return in(y.marked, t);
-                case BY_TRAIN: return (sources & ~aboard[0]) != 0L;
-                default: return (sources & aboard[0] & ~left) != 0L;
-            }
         }
 
         private void move(Yard y, Plan plan) {

@@ -604,8 +604,10 @@ public final class PromiseTest {
         due("odds(6)", x.odds(6), NONE);
         due("odds(-2)", x.odds(-2), NONE);
         due("nothing has changed", x.link(3, 0), 2);
+        told(SIX);
         told("units 8;thing a size 1;thing b size 1;link a to b;root a;");
-        due("without churn", x.odds(1), x.odds(-1));
+        told("units 8;thing a size 1;thing b size 1;link a to b;root a;");
+        due("without churn, though the text before had it", x.odds(1), x.odds(-1));
         x.aim(0, NONE);
         due("odds(-1) without live things", x.odds(-1), NONE);
         due("odds(0) without live things", x.odds(0), NONE);
