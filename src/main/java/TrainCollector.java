@@ -1579,23 +1579,29 @@ public final class TrainCollector {
             if (stays == 0) {
                 stayTrain = to;
             }
-            // Until then aboard tells its train.
+            // Until the STEP ends aboard tells its train.
             put(y.car, t, STAYING);
-            put(y.place, t, stays);
             stays++;
         }
 
-        /** Those that STAYED get the car behind the last one of the train of the first of them. */
+        /**
+         * Those that STAYED get the car behind the last one of the train of the first that did, in it
+         * one behind the other as they were in the first car, whichever STAYED first.
+         */
         private void couple(Yard y) {
             if (stays == 0) {
                 return;
             }
             int number = at(y.cars, stayTrain);
             put(y.cars, stayTrain, number + 1);
-            for (int t = 0; t < THINGS; t++) {
-                if (y.size[t] > 0 && y.car[t] == STAYING) {
+            int seated = 0;
+            for (int i = 0; i < waits && i < THINGS; i++) {
+                int t = waiting[i];
+                if (at(y.car, t) == STAYING) {
                     put(y.train, t, stayTrain);
                     put(y.car, t, number);
+                    put(y.place, t, seated);
+                    seated++;
                 }
             }
         }

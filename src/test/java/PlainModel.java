@@ -619,6 +619,7 @@ final class PlainModel {
 
     private void emptyCar(World w, Train first, Outcome o) {
         Car car = first.cars.get(0);
+        List<Thing> once = new ArrayList<>(car.things);
         Car stayed = new Car();
         Train home = null;
         boolean only4 = true;
@@ -672,6 +673,7 @@ final class PlainModel {
         }
         first.cars.remove(car);
         if (home != null) {
+            stayed.things.sort((a, b) -> once.indexOf(a) - once.indexOf(b));
             home.cars.add(stayed);
             for (Thing t : stayed.things) {
                 t.train = home;

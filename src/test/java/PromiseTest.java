@@ -735,6 +735,23 @@ public final class PromiseTest {
         due("4 .. 8", x.tells(0, 2), 5);
         told("units 99;thing a size 4;root a;");
         due("all of 99", x.tells(0, 2), 99);
+        tellsOfMany();
+    }
+
+    /** 40 cars of one thing each; the first thing goes to the last of them, and fits in by 1 .. 3 alone. */
+    private static void tellsOfMany() {
+        begin(23);
+        told("units 8;");
+        x.make(5, 7);
+        for (int i = 1; i < 40; i++) {
+            due("make", x.make(5, i % 2), i);
+            due("set", x.set(i, 0, i - 1), true);
+        }
+        due("40 cars", x.has(4), 40);
+        due("40 cars behind a step", x.later(1, 1), 40);
+        due("one step", x.tells(0, 0), 1);
+        due("by cars", x.tells(0, 1), 1);
+        due("4 .. 8", x.tells(0, 2), 5);
     }
 
     private static void steps() {
@@ -824,6 +841,43 @@ public final class PromiseTest {
         x.steps(1);
         rides(0, 0, 0, 0);
         rides(1, 0, 1, 0);
+    }
+
+    /** In their CAR they are as they were one behind the other, whichever STAYED first. */
+    private static void orderOfThoseThatStay() {
+        promise = 24;
+        told("units 9;thing a size 1;thing b size 1;next;thing c size 1;link c to a;root b;root c;pops all;");
+        due("none falls", x.steps(1), 0);
+        rides(0, 0, 1, 0);
+        rides(1, 0, 1, 1);
+        // d stays first, then b, a; c goes from between them, e falls.
+        told("units 9;thing a size 1;thing b size 1;thing c size 2;thing d size 1;thing e size 1;next;thing f size 3;"
+            + "link d to b;link b to a;link f to c;root d;root f;pops size=1;");
+        due("e falls", x.steps(1), 1);
+        rides(5, 0, 0, 0);
+        rides(2, 0, 0, 1);
+        rides(0, 0, 1, 0);
+        rides(1, 0, 1, 1);
+        rides(3, 0, 1, 2);
+        // The train is that of the one that stayed first, b, though a is ahead of it in the car.
+        told("units 9;thing a size 1;thing b size 1;next;thing c size 2;next;thing d size 2;link c to a;root b;root c;"
+            + "root d;pops size=1;");
+        x.steps(1);
+        rides(2, 0, 0, 0);
+        rides(3, 1, 0, 0);
+        rides(0, 1, 1, 0);
+        rides(1, 1, 1, 1);
+        // Once the step is over that car is one as others: more is laid in it, and it is emptied in its turn.
+        due("make", x.make(1, 3), 4);
+        rides(4, 1, 1, 2);
+        due("steps(1)", x.steps(1), 0);
+        rides(2, 0, 1, 3);
+        due("steps(2)", x.steps(2), 0);
+        rides(3, 0, 0, 0);
+        rides(2, 0, 0, 1);
+        rides(0, 0, 1, 0);
+        rides(1, 0, 1, 1);
+        rides(4, 0, 1, 2);
     }
 
     private static void chance() {
@@ -1245,6 +1299,7 @@ public final class PromiseTest {
         tells();
         steps();
         rulesOfSteps();
+        orderOfThoseThatStay();
         chance();
         make();
         set();
