@@ -73,6 +73,31 @@ public final class AheadEdgeTest extends Probe {
             due("falls(" + r + ") behind it", x.falls(r), NONE);
             due("clean() behind it", x.clean(), 0);
         }
+        says("later: what these STEPS cost together, how many of them are FUTILE");
+        oneByOne(slow(2), 30);
+        oneByOne(slow(5) + "costs size+step-refs;pops refs>1;", 10);
+        oneByOne("units 8;thing a size 8;next;thing b size 8;root a;root b;", 0);
+    }
+
+    /** How many of n STEPS are FUTILE, how dear they are: as they are one by one. */
+    private static void oneByOne(String text, int atLeast) {
+        told(text);
+        int[] futile = new int[61];
+        int[] cost = new int[61];
+        for (int n = 1; n <= 60; n++) {
+            futile[n] = x.later(n, 4);
+            cost[n] = x.later(n, 3);
+        }
+        int sum = 0;
+        int dear = 0;
+        for (int n = 1; n <= 60; n++) {
+            sum += x.later(1, 4);
+            dear += x.later(1, 3);
+            x.steps(1);
+            due("later(" + n + ", 4)", futile[n], sum);
+            due("later(" + n + ", 3)", cost[n], dear);
+        }
+        due("so many are FUTILE", sum >= atLeast, true);
     }
 
     private static void each() {
@@ -184,6 +209,23 @@ public final class AheadEdgeTest extends Probe {
         holderIs(abc + "link c to b;link c to a;root c;root c;", 2, 0, 1);
         holderIs(abc + "link a to a;link b to c;link a to c;link b to b;link b to b;root a;root b;link a to b;", NONE, 0, 1);
         holderIs(abc + "root a;root a;link a to b;link a to c;", 0, 0, 1);
+        holderIs(abc + "root c;root c;root c;root c;root c;root c;root c;root a;link a to b;", NONE, 7, 2);
+        holderIs(abc + "root b;root b;link b to b;link b to b;link b to b;link b to a;link a to c;", 1, 3, 2);
+        holderIs(abc + "root c;root c;link c to c;link c to c;link c to b;link b to a;", 2, 2, 2);
+        chain(40);
+        x.aim(0, 39);
+        due("two ROOTS hold all: a LINK of the last", x.holder(0), 39);
+        due("its number", x.holder(1), 0);
+        due("how many", x.holder(2), 39);
+        x.set(39, 0, NONE);
+        due("set", x.set(39, 3, 39), true);
+        due("what is LIVE by itself alone", x.holder(2), 0);
+        x.undo();
+        x.undo();
+        x.set(39, 3, 38);
+        x.set(39, 0, NONE);
+        due("the last LINK of the last", x.holder(0) * 4 + x.holder(1), 39 * 4 + 3);
+        due("how many", x.holder(2), 39);
         says("HOLDER: none LIVE no more by any is like, too");
         holderIs(abc + "root b;root b;", NONE, 0, 0);
         holderIs(abc + "link c to b;link c to b;root c;root c;", NONE, 0, 0);
@@ -216,7 +258,9 @@ public final class AheadEdgeTest extends Probe {
         told("units 8;thing a size 1;thing b size 1;thing c size 1;link a to b;link a to b;root a;root a;churn 100;");
         due("two LINKS hold it: no row takes both", x.odds(1), 1600);
         due("RUBBISH is none by any", x.odds(2), 0);
+        oddsOfMany();
         says("NONE when there is none such, or without LIVE THINGS");
+        told(ONE + "thing b size 1;thing c size 1;");
         due("odds(3)", x.odds(3), NONE);
         due("odds(-2)", x.odds(-2), NONE);
         due("odds(40)", x.odds(40), NONE);
@@ -230,6 +274,48 @@ public final class AheadEdgeTest extends Probe {
         told(ONE);
         stepsTo(999);
         due("odds(-1)", x.odds(NONE), 400);
+    }
+
+    private static void oddsOfMany() {
+        says("ODDS: what the second one leads to is LIVE behind the churn");
+        // Of the rows by which a's LINK goes: to a, b or c. Of those by which b's goes: to a, b or c.
+        told("units 8;thing a size 1;thing b size 1;thing c size 1;link a to b;link b to c;root a;churn 100;");
+        due("odds(0)", x.odds(0), 3600);
+        due("odds(1): a's to b or c alone, c does not lead to b", x.odds(1), 100 * (36 - 2));
+        due("odds(2)", x.odds(2), 100 * (36 - 1 - 2));
+        told("units 8;thing a size 1;thing b size 1;link b to a;root b;churn 100;");
+        due("odds(0) by the LINK of b", x.odds(0), 1500);
+        told("units 8;thing a size 1;thing b size 1;link b to b;link b to b;link b to b;link b to a;root b;churn 100;");
+        due("odds(0) by its last LINK", x.odds(0), 1500);
+        says("ODDS of 40 THINGS in a line");
+        chain(40);
+        due("churn is 0", x.odds(0), 640000);
+        line("units 8;churn 100;", false);
+        line("units 8;churn 100;", true);
+    }
+
+    /** Each of 40 has a LINK to the next in the line; without it what is behind lives if the second one is behind, too. */
+    private static void line(String text, boolean rising) {
+        told(text);
+        for (int i = 0; i < 40; i++) {
+            x.make(1, i % 2);
+            if (i > 0) {
+                x.set(rising ? i - 1 : i, i == 39 ? 3 : 0, rising ? i : i - 1);
+            }
+            if (rising && i == 0) {
+                x.aim(7, 0);
+            }
+        }
+        x.aim(0, NONE);
+        x.aim(rising ? 1 : 7, NONE);
+        due("has(2)", x.has(2), 40);
+        int lost = 0;
+        for (int behind = 0; behind < 40; behind++) {
+            int t = rising ? behind : 39 - behind;
+            // The LINK that is d ahead of it: the second one is none of those from it on to it.
+            lost += behind == 0 ? 0 : 40 - behind;
+            due("odds(" + t + ")", x.odds(t), 100 * (6400 - lost));
+        }
     }
 
     // ---- MET, SIZES, TELLING
@@ -318,6 +404,70 @@ public final class AheadEdgeTest extends Probe {
         sizesAre(2, 4, 5, 6, 7, 8);
         x.undo();
         sizesAre(0, 4, 5, 6, 7, 8);
+    }
+
+    private static void sizesByMany() {
+        says("MET, 1 to 16 rows: each of them, the 16th too");
+        int[] rows = new int[48];
+        for (int i = 0; i < 16; i++) {
+            rows[3 * i + 1] = 1;
+            rows[3 * i + 2] = 1;
+        }
+        for (int at = 0; at < 16; at++) {
+            told(late(19));
+            int[] one = rows.clone();
+            one[3 * at] = 20;
+            one[3 * at + 2] = 2;
+            met(one);
+            sizesAre(0, 4, 5, 6, 7, 8);
+            tellsIs(0, 1, 1, 3);
+        }
+        says("SIZES, TELLING of the THING that is asked, as all is when it is asked");
+        told("units 8;thing a size 3;thing b size 2;thing c size 7;root a;root b;root c;");
+        for (int turn = 0; turn < 2; turn++) {
+            met(1, 1, 3);
+            sizesAre(0, 7, 8);
+            sizesAre(1, 6, 7, 8);
+            sizesAre(0, 7, 8);
+            tellsIs(0, 1, 0, 2);
+            due("set", x.set(0, 0, 1), true);
+            sizesAre(0, 7, 8);
+            due("aim", x.aim(0, NONE), true);
+            sizesAre(0);
+            tellsIs(0, NONE, NONE, NONE);
+            due("undo()", x.undo(), true);
+            sizesAre(0, 7, 8);
+            tellsIs(0, 1, 0, 2);
+            due("undo()", x.undo(), true);
+            sizesAre(1, 6, 7, 8);
+        }
+        says("falls, clean, later: as all is when it is asked");
+        told("units 8;thing a size 8;next;thing b size 8;link b to a;root b;");
+        for (int turn = 0; turn < 2; turn++) {
+            due("falls(0)", x.falls(0), NONE);
+            due("clean()", x.clean(), 0);
+            due("later(1, 2)", x.later(1, 2), 2);
+            due("set", x.set(1, 0, NONE), true);
+            due("falls(0)", x.falls(0), 1);
+            due("clean()", x.clean(), 1);
+            due("later(1, 2)", x.later(1, 2), 1);
+            due("undo()", x.undo(), true);
+        }
+        int[] image = imageOf(x);
+        x.steps(1);
+        due("later(1, 1)", x.later(0, 1), 2);
+        x.make(8, 5);
+        due("later(0, 1)", x.later(0, 1), 3);
+        due("tells(0, 2)", x.tells(0, 2), 8);
+        due("set", x.set(1, 0, NONE), true);
+        due("falls(0)", x.falls(0) > 0, true);
+        put(image);
+        due("on()", x.on(), true);
+        due("falls(0)", x.falls(0), NONE);
+        due("later(0, 1)", x.later(0, 1), 2);
+        due("seed()", x.seed(3), true);
+        due("churn by chance", x.chance(1), 0);
+        due("later(0, 1)", x.later(0, 1), 2);
     }
 
     private static void sizesAtTheEnd() {
@@ -568,6 +718,7 @@ public final class AheadEdgeTest extends Probe {
         holders();
         odds();
         sizes();
+        sizesByMany();
         sizesAtTheEnd();
         telling();
         images();

@@ -1,4 +1,5 @@
 import java.util.ArrayList;
+import java.util.Arrays;
 import java.util.List;
 
 /**
@@ -469,15 +470,49 @@ public final class RefusalTest extends Probe {
             }
         }
         for (int[] bytes : badImages(good)) {
-            refused("on() of " + java.util.Arrays.toString(bytes), 5, 0, with(BUSY), y -> {
+            refused("on() of " + Arrays.toString(bytes), 5, 0, with(BUSY), y -> {
                 after(y, bytes);
                 return bit(y.on());
             });
         }
-        refused("on() of a wrong one of 40 things", 5, 0, with(FULL), y -> {
-            after(y, changed(most, most.length - 2, 40));
+        // The last THING is at 400: it is alone in its CAR; the one ahead of it, at 390, leaves no room for it.
+        int[][] changes = {{400, 9}, {400, 0}, {401, 1}, {401, 255}, {402, 255}, {402, most[402] + 1}, {403, 1}, {403, 200}, {404, 100},
+            {405, 2}, {406, 40}, {409, 40}, {409, 254}, {9, 40}, {10, 9}, {13, 1}};
+        for (int[] change : changes) {
+            refused("on() of a wrong one of 40 things: " + change[0], 5, 0, with(FULL), y -> {
+                after(y, changed(most, change[0], change[1]));
+                return bit(y.on());
+            });
+        }
+        refused("on() of one with a CAR of 7 and 8", 5, 0, with(FULL), y -> {
+            after(y, changed(changed(most, 402, most[392]), 403, 1));
             return bit(y.on());
         });
+        alone();
+    }
+
+    /** One THING alone has to be in the first place of the first CAR of the first TRAIN. */
+    private static void alone() {
+        int[] image = new int[60];
+        Arrays.fill(image, 2, 10, 255);
+        Arrays.fill(image, 16, 20, 255);
+        image[10] = 8;
+        for (int at = 11; at <= 13; at++) {
+            int place = at;
+            refused("on() of one THING with " + at + " not 0", 5, 0, with(BUSY), y -> {
+                after(y, changed(image, place, 1));
+                return bit(y.on());
+            });
+        }
+        refused("on() of one THING above units", 5, 0, with(BUSY), y -> {
+            after(y, changed(image, 10, 9));
+            return bit(y.on());
+        });
+        says("Promise 34: on: one THING alone");
+        heap(x, FIVE);
+        put(checked(image));
+        due("on()", x.on(), true);
+        due("has(5)", x.has(5), 8);
     }
 
     private static int[] cut(int[] bytes, int length) {
@@ -507,6 +542,12 @@ public final class RefusalTest extends Probe {
         }
         bad.add(changed(changed(good, 0, 3), 1, 1000 % 256));
         bad.add(changed(changed(good, 41, 3), 51, 3));
+        bad.add(changed(changed(good, 41, 2), 51, 2));
+        bad.add(changed(changed(good, 42, 1), 52, 1));
+        bad.add(changed(changed(good, 22, 2), 32, 2));
+        bad.add(changed(changed(good, 23, 1), 33, 2));
+        bad.add(changed(changed(good, 43, 1), 53, 2));
+        bad.add(changed(changed(changed(good, 11, 2), 21, 2), 31, 2));
         return bad;
     }
 
@@ -527,7 +568,7 @@ public final class RefusalTest extends Probe {
                 bytes = changed(bytes, change[0], change[1]);
             }
             put(bytes);
-            due("on() of " + java.util.Arrays.toString(bytes), x.on(), true);
+            due("on() of " + Arrays.toString(bytes), x.on(), true);
             int[] then = imageOf(x);
             for (int i = 0; i < bytes.length; i++) {
                 due("byte " + i, then[i], bytes[i]);
@@ -535,6 +576,35 @@ public final class RefusalTest extends Probe {
             due("KEPT", x.has(7), 0);
             due("ACTS", x.has(9), 0);
         }
+        says("Promise 34: on: true, all is as it tells");
+        asItTells("at first", y -> heap(y, FIVE));
+        asItTells("behind 3 STEPS", y -> {
+            heap(y, FIVE);
+            y.steps(3);
+        });
+        asItTells("with numbers that are free", y -> {
+            heap(y, FIVE);
+            y.steps(1);
+            y.make(2, 5);
+            y.set(1, 1, NONE);
+            y.steps(20);
+            y.make(3, 6);
+            y.set(3, 3, 1);
+        });
+        asItTells("FUTILE", y -> {
+            heap(y, FIVE);
+            y.aim(1, NONE);
+            y.steps(2);
+        });
+        asItTells("with 40 THINGS", y -> {
+            heap(y, "units 8;fresh cars>4;");
+            for (int i = 0; i < 40; i++) {
+                y.make(1 + i % 8, i % 8);
+            }
+            y.set(39, 3, 38);
+            y.set(38, 0, 39);
+            y.aim(7, NONE);
+        });
         says("Promise 34: nothing is KEPT, no ACT can be undone; the rest is of the HEAP");
         busy(x);
         int seed = x.has(10);
@@ -552,6 +622,39 @@ public final class RefusalTest extends Probe {
         due("no THINGS", x.has(1), 0);
         due("no TRAINS", x.has(3), 0);
         due("make", x.make(8, 0), 0);
+    }
+
+    /** An object by an image is asked all that the one is asked which came to be so by itself. */
+    private static void asItTells(String name, Play play) {
+        TrainCollector source = new TrainCollector();
+        play.with(source);
+        int[] image = imageOf(source);
+        for (int part = 1; part < PARTS - 1; part++) {
+            TrainCollector is = new TrainCollector();
+            heap(is, image.length > 300 ? "units 8;fresh cars>4;" : FIVE);
+            is.chance(3);
+            is.make(1, 1);
+            put(is, image);
+            due("on() of " + name, is.on(), true);
+            TrainCollector was = new TrainCollector();
+            play.with(was);
+            was.image();
+            is.image();
+            List<Integer> want = asked(was, part, NONE);
+            List<Integer> got = asked(is, part, NONE);
+            for (int i = 0; i < want.size(); i++) {
+                boolean letter = part == 2 && (i % 7 == 4 || i % 7 == 5);
+                due("what is told " + name + ", part " + part + ", " + i, letter ? 0 : got.get(i), letter ? 0 : want.get(i));
+            }
+            for (int what = 0; what < 7; what++) {
+                due("has(" + what + ") " + name, is.has(what), was.has(what));
+            }
+            for (int r = 0; r < 8; r++) {
+                due("root(" + r + ") " + name, is.root(r), was.root(r));
+                due("train(" + r + ", 0) " + name, is.train(r, 0), was.train(r, 0));
+                due("train(" + r + ", 3) " + name, is.train(r, 3), was.train(r, 3));
+            }
+        }
     }
 
     private static int emptied() {

@@ -175,6 +175,22 @@ public final class StepEdgeTest extends Probe {
         rides(3, 0, 0, 0);
         rides(0, 1, 0, 0);
         due("all GO: none falls", lastOf("units 9;thing a size 1;thing b size 1;link a to b;root a;", 1), 0);
+        rides(0, 0, 0, 0);
+        rides(1, 0, 0, 1);
+        says("one after the other: what has gone is of the TRAIN it went to");
+        told("units 9;thing a size 1;thing b size 1;thing c size 9;thing d size 9;link a to b;link d to b;link d to c;root a;root d;");
+        x.steps(1);
+        rides(0, 1, 0, 0);
+        rides(1, 1, 0, 1);
+        rides(2, 0, 0, 0);
+        says("3 ahead of 4: there is a LINK to it from another TRAIN, and one from another CAR of the first");
+        told("units 9;thing a size 1;thing b size 9;next;thing c size 1;link b to a;link c to a;root b;root c;");
+        x.steps(1);
+        rides(0, 1, 0, 1);
+        says("1 ahead of 3: a ROOT to it, and a LINK from a TRAIN between");
+        told("units 9;thing a size 1;next;thing b size 1;next;thing c size 1;link b to a;root a;root b;root c;");
+        x.steps(1);
+        rides(0, 1, 0, 1);
     }
 
     /** How many FELL by the last of so many STEPS. */
@@ -273,6 +289,192 @@ public final class StepEdgeTest extends Probe {
             + "link e to b;root e;");
         x.steps(1);
         due("by a LINK from another TRAIN", x.thing(1, 7), 1);
+    }
+
+    private static void markedFirst() {
+        says("CAR by CAR: of those to which there is a ROOT the one whose CAR is first is MARKED, whatever its number");
+        // 0 falls; made again it rides behind all. b goes by rule 4.
+        told("units 8;thing a size 1;next;thing b size 8;thing c size 8;link c to b;root c;fresh not all;");
+        due("a falls", x.steps(1), 1);
+        due("make", x.make(8, 1), 0);
+        rides(0, 0, 2, 0);
+        due("FUTILE", x.later(1, 4), 1);
+        x.steps(1);
+        due("c is MARKED", x.thing(2, 7), 1);
+        due("0 is not", x.thing(0, 7), 0);
+        says("CAR by CAR: in one CAR the first of it");
+        told("units 8;thing a size 1;next;thing b size 8;thing c size 4;link c to b;root c;fresh not all;");
+        due("a falls", x.steps(1), 1);
+        due("make", x.make(4, 1), 0);
+        rides(0, 0, 1, 1);
+        x.steps(1);
+        rides(2, 0, 0, 0);
+        due("c is MARKED", x.thing(2, 7), 1);
+        due("0 is not", x.thing(0, 7), 0);
+        says("A THING that GOES or STAYS is MARKED no more; what FALLS neither");
+        told("units 8;thing a size 8;thing b size 8;link b to a;root b;");
+        x.steps(1);
+        due("b is MARKED", x.thing(1, 7), 1);
+        x.steps(1);
+        due("gone", x.thing(1, 7), 0);
+        told("units 8;thing a size 8;thing b size 8;link b to a;root b;pops step=1;");
+        x.steps(2);
+        due("stayed", x.thing(1, 7), 0);
+        told("units 8;thing a size 8;thing b size 8;link b to a;root b;");
+        x.steps(1);
+        x.aim(0, NONE);
+        due("all fall", x.steps(1), 2);
+        x.make(1, 0);
+        x.make(1, 1);
+        due("made again", x.thing(1, 7), 0);
+    }
+
+    private static void madeAgain() {
+        says("What FALLS is no more, nor are its LINKS: nothing is left to one that has its number then");
+        told("units 8;thing a size 8;next;thing b size 8;link a to b;link a to a;link a to b;link a to b;root b;fresh all;");
+        x.steps(1);
+        due("make", x.make(1, 1), 0);
+        for (int k = 0; k < 4; k++) {
+            due("link(0, " + k + ")", x.link(0, k), NONE);
+        }
+        due("age", x.thing(0, 6), 0);
+        due("refs of b", x.thing(1, 5), 1);
+        due("refs of the new one", x.thing(0, 5), 1);
+        x.aim(0, NONE);
+        due("nothing holds b", x.steps(1), 1);
+        due("the new one stays", x.thing(0, 4), 1);
+        says("a LINK set to none, or elsewhere, holds no more");
+        told("units 8;thing a size 8;next;thing b size 8;link b to a;root b;");
+        due("set", x.set(1, 0, NONE), true);
+        due("a falls", x.steps(1), 1);
+        told("units 8;thing a size 8;next;thing b size 8;link b to a;root b;");
+        due("set", x.set(1, 0, 1), true);
+        due("a falls", x.steps(1), 1);
+        told("units 8;thing a size 8;next;thing b size 8;link b to a;link b to a;root b;");
+        due("set", x.set(1, 0, NONE), true);
+        due("the other LINK holds it", x.steps(1), 0);
+        rides(0, 0, 1, 0);
+        due("set", x.set(1, 1, NONE), true);
+        due("none does", x.steps(2), 1);
+        says("heap: all is as at first: nothing is left to one made then");
+        told("units 8;");
+        for (int i = 0; i < 5; i++) {
+            x.make(8, i);
+            x.set(i, 3, 0);
+        }
+        stepsTo(7);
+        told("units 8;thing a size 1;root a;");
+        for (int i = 1; i < 5; i++) {
+            due("make", x.make(1, i), i);
+            due("age", x.thing(i, 6), 0);
+            due("link(" + i + ", 3)", x.link(i, 3), NONE);
+            rides(i, 0, 0, i);
+        }
+        due("refs of a", x.thing(0, 5), 1);
+    }
+
+    // ---- many at once
+
+    /** 40 THINGS, each but the first with a LINK to the one made before, the last with a ROOT. */
+    private static void crowd(String text, int size) {
+        told(text);
+        for (int i = 0; i < 40; i++) {
+            due("make", x.make(size, i % 2), i);
+            due("set", i == 0 || x.set(i, i == 39 ? 3 : 0, i - 1), true);
+        }
+        due("aim", x.aim(0, NONE), true);
+    }
+
+    private static void crowds() {
+        says("THINGS of its first CAR GO, as long as one must: 40 of them");
+        crowd("units 99;", 1);
+        due("one CAR", x.has(4), 1);
+        due("costs", x.later(1, 3), 40);
+        due("none falls", x.steps(1), 0);
+        kept(0, 0, 0, 40);
+        for (int t = 0; t < 40; t++) {
+            rides(t, 0, 0, 39 - t);
+            due("age", x.thing(t, 6), 1);
+        }
+        due("units taken", x.car(0, 0, 1), 40);
+        says("a CAR of its own with all that STAY: 40 of them");
+        crowd("units 99;pops all;", 1);
+        due("none falls", x.steps(1), 0);
+        kept(0, 0, 0, 40);
+        for (int t = 0; t < 40; t++) {
+            rides(t, 0, 0, t);
+        }
+        says("all that did not GO or STAY FALL: 39, 40 of them");
+        crowd("units 99;", 1);
+        x.aim(1, NONE);
+        due("falls(39)", x.falls(39), 1);
+        due("all fall", x.steps(1), 40);
+        kept(0, 0, 40, 0);
+        due("no TRAIN", x.has(3), 0);
+        crowd("units 99;", 1);
+        x.aim(7, 0);
+        x.aim(1, NONE);
+        due("all but the first fall", x.steps(1), 39);
+        kept(0, 0, 39, 1);
+        rides(0, 0, 0, 0);
+        crowd("units 99;", 1);
+        x.set(39, 3, NONE);
+        due("all but the last fall", x.steps(1), 39);
+        rides(39, 0, 0, 0);
+        due("age of the last", x.thing(39, 6), 1);
+        manyCars();
+    }
+
+    private static void manyCars() {
+        says("40 CARS of one THING each");
+        crowd("units 8;fresh not all;", 8);
+        due("CARS", x.has(4), 40);
+        due("train(0, 0)", x.train(0, 0), 40);
+        due("car(0, 39, 1)", x.car(0, 39, 1), 8);
+        due("car(0, 40, 1)", x.car(0, 40, 1), NONE);
+        rides(39, 0, 39, 0);
+        due("FUTILE: 0 is held by 1", x.later(1, 4), 1);
+        x.steps(1);
+        rides(0, 0, 39, 0);
+        rides(39, 0, 38, 0);
+        due("the last is MARKED", x.thing(39, 7), 1);
+        due("39 go by rule 4, one by one", x.later(38, 4), 38);
+        due("the 40th goes by its ROOT", x.later(39, 4), 38);
+        x.steps(39);
+        due("TRAINS", x.has(3), 2);
+        rides(39, 1, 0, 0);
+        due("MARKED no more", x.thing(39, 7), 0);
+        due("age of the last", x.thing(39, 6), 40);
+        says("40 TRAINS of one THING each");
+        crowd("units 8;fresh all;", 8);
+        due("TRAINS", x.has(3), 40);
+        due("train(39, 2)", x.train(39, 2), 8);
+        rides(39, 39, 0, 0);
+        due("refs into the last", x.train(39, 3), 1);
+        x.steps(1);
+        rides(0, 0, 1, 0);
+        rides(39, 38, 0, 0);
+        due("TRAINS", x.has(3), 39);
+        due("CARS", x.has(4), 40);
+        x.aim(1, NONE);
+        due("no LIVE THINGS", x.has(2), 0);
+        due("each is held by the next, and they go on together: beyond 60", x.clean(), NONE);
+        due("falls(39)", x.falls(39), NONE);
+    }
+
+    private static void places() {
+        says("in a CAR of its own with all that STAY: places from 0 on, however many rode with it before");
+        told("units 9;thing a size 1;thing b size 1;thing c size 1;next;thing d size 9;root c;root d;pops size=1;");
+        due("a, b fall", x.steps(1), 2);
+        rides(2, 0, 1, 0);
+        due("d goes", x.steps(1), 0);
+        rides(2, 0, 0, 0);
+        x.steps(1);
+        rides(2, 0, 1, 0);
+        x.steps(1);
+        rides(2, 0, 0, 0);
+        due("make", x.make(1, 5), 0);
+        rides(0, 1, 1, 0);
     }
 
     private static void futileBy(String label, String text, int want) {
@@ -379,7 +581,10 @@ public final class StepEdgeTest extends Probe {
         due("one DRAW each", x.has(10), after(1, 2));
         says("a DRAW of these (by number), a DRAW of 4, a DRAW of these: that LINK of the first one is to the second one then");
         for (int seed = 1; seed < 40; seed++) {
-            pointed(seed);
+            pointed(seed, 1, 3, 4);
+            pointed(seed, 0, 1, 2);
+            pointed(seed, 0, 4);
+            pointed(seed, 2);
         }
     }
 
@@ -390,19 +595,22 @@ public final class StepEdgeTest extends Probe {
         due("the seed behind it", x.has(10), after(seed, want ? 4 : 1));
     }
 
-    /** Those LIVE are 1, 3, 4 of five; 0 and 2 fall. */
-    private static void pointed(int seed) {
-        told("units 9;thing a size 1;thing b size 1;thing c size 1;thing d size 1;thing e size 1;root b;root d;root e;"
-            + "churn 100;");
+    /** Of five THINGS in one CAR those told are LIVE. */
+    private static void pointed(int seed, int... live) {
+        StringBuilder text = new StringBuilder(
+            "units 9;thing a size 1;thing b size 1;thing c size 1;thing d size 1;thing e size 1;churn 100;");
+        for (int t : live) {
+            text.append("root ").append((char) ('a' + t)).append(';');
+        }
+        told(text.toString());
         x.seed(seed);
         due("chance(1)", x.chance(1), 1);
-        int[] live = {1, 3, 4};
         long one = next(next(seed));
         long two = next(one);
         long three = next(two);
-        int first = live[(int) (one / 64 % 3)];
+        int first = live[(int) (one / 64 % live.length)];
         int k = (int) (two / 64 % 4);
-        int second = live[(int) (three / 64 % 3)];
+        int second = live[(int) (three / 64 % live.length)];
         due("the seed", x.has(10), three);
         for (int t : live) {
             for (int i = 0; i < 4; i++) {
@@ -428,6 +636,32 @@ public final class StepEdgeTest extends Probe {
         x.chance(1);
         kept(0, 21, 0, 1);
         kept(39, 60, 0, 1);
+        says("KEPT: row by row, by STEPS in which so many FALL and GO");
+        // In trains 0, 2, 4 .. one falls, in the others one goes by its ROOT.
+        told("units 8;fresh all;");
+        for (int i = 0; i < 12; i++) {
+            x.make(8, i % 2 == 0 ? 7 : i / 2);
+        }
+        x.aim(7, NONE);
+        x.steps(35);
+        for (int k = 0; k < 12; k++) {
+            kept(k, k, 1 - k % 2, k % 2);
+        }
+        x.steps(12);
+        for (int k = 0; k < 40; k++) {
+            kept(k, k + 7, k < 5 && k % 2 == 1 ? 1 : 0, k < 5 && k % 2 == 1 ? 0 : 1);
+        }
+        x.steps(50);
+        due("undo()", x.undo(), true);
+        for (int k = 0; k < 40; k++) {
+            kept(k, k + 7, k < 5 && k % 2 == 1 ? 1 : 0, k < 5 && k % 2 == 1 ? 0 : 1);
+        }
+        due("undo()", x.undo(), true);
+        due("told", x.has(7), 35);
+        for (int k = 0; k < 35; k++) {
+            kept(k, k, k < 12 && k % 2 == 0 ? 1 : 0, k < 12 && k % 2 == 0 ? 0 : 1);
+        }
+        due("kept(35, 0)", x.kept(35, 0), NONE);
     }
 
     private static void acts() {
@@ -518,6 +752,19 @@ public final class StepEdgeTest extends Probe {
         rides(0, 0, 0, 0);
         due("refs: a ROOT is to it", x.thing(0, 5), 1);
         due("age", x.thing(0, 6), 0);
+        says("in fresh: step");
+        told("units 8;thing a size 1;root a;fresh step=7;");
+        stepsTo(6);
+        x.make(1, 1);
+        rides(1, 0, 0, 1);
+        stepsTo(7);
+        x.make(1, 2);
+        rides(2, 1, 0, 0);
+        x.undo();
+        x.undo();
+        due("STEP", x.has(6), 6);
+        x.make(1, 2);
+        due("one TRAIN", x.has(3), 1);
         says("a new TRAIN for each of 40 THINGS");
         told("units 8;fresh all;");
         for (int i = 0; i < 40; i++) {
@@ -541,6 +788,10 @@ public final class StepEdgeTest extends Probe {
         rules();
         popular();
         futile();
+        markedFirst();
+        madeAgain();
+        crowds();
+        places();
         costs();
         ends();
         draws();

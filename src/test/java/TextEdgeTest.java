@@ -80,6 +80,14 @@ public final class TextEdgeTest extends Probe {
         due("has(1)", x.has(1), 24);
         due("the last letter", x.letter(23, 0), 24);
         due("thing(23, 0)", x.thing(23, 0), 1);
+        due("without next there is one train", x.has(3), 1);
+        told("units 8;" + things(24) + "link x to a;link x to b;link x to w;link x to x;link a to x;root x;");
+        int[] links = {0, 1, 22, 23};
+        for (int k = 0; k < 4; k++) {
+            due("link(23, " + k + ")", x.link(23, k), links[k]);
+        }
+        due("link(0, 0)", x.link(0, 0), 23);
+        due("root(0)", x.root(0), 23);
         String full = "units 8;" + things(24);
         faulty(full + "thing z size 1;", 6, full.length());
         faulty(full + "thing a size 1;", 6, full.length());
@@ -550,6 +558,39 @@ public final class TextEdgeTest extends Probe {
         told("units 8;pops not not not not not not [all] and not [not [not [not all]]];");
     }
 
+    private static void allThree() {
+        says("pops TEST, fresh TEST, costs SUM: each for itself, in any order, text by text");
+        String[] three = {"pops 1+size*2=9 or[step>5 and not all];", "fresh load-1=min(3,9)+0*step;", "costs (1+2)*3+size*(2+3);"};
+        int[][] orders = {{0, 1, 2}, {0, 2, 1}, {1, 0, 2}, {1, 2, 0}, {2, 0, 1}, {2, 1, 0}};
+        for (int[] order : orders) {
+            StringBuilder text = new StringBuilder("units 9;thing a size 4;thing b size 1;root b;");
+            for (int i : order) {
+                text.append(three[i]);
+            }
+            told(text.toString());
+            due("pops of a", x.thing(0, 8), 1);
+            due("pops of b", x.thing(1, 8), 0);
+            due("costs of b", x.later(1, 3), 14);
+            due("make", x.make(1, 7), 2);
+            due("fresh does not hold by 5 - 1", x.thing(2, 1), 0);
+            told(text.toString().replace("load-1", "load-2"));
+            due("make", x.make(1, 7), 2);
+            due("fresh holds by 5 - 2", x.thing(2, 1), 1);
+        }
+        anew();
+        String sum = "1" + "+1".repeat(60);
+        for (int i = 0; i < 12; i++) {
+            told("units 9;thing a size 3;root a;costs " + sum + ";pops " + sum + "<" + sum + ";fresh " + sum + "=" + sum + ";");
+            due("text " + i, x.later(1, 3), 61);
+            due("text " + i, x.thing(0, 8), 0);
+        }
+        sum = "1" + "+1".repeat(770);
+        told("units 9;thing a size 3;root a;costs " + sum + "-700;");
+        due("a long text", x.later(1, 3), 71);
+        told("units 9;thing a size 3;root a;");
+        due("another without: costs", x.later(1, 3), 3);
+    }
+
     private static void formulas() {
         says("1 the first byte with which no HEAP goes on, in SUMS and TESTS");
         String[][] rows = {{"costs ;", "6"}, {"costs 1+;", "8"}, {"costs +1;", "6"}, {"costs -1;", "6"}, {"costs 1 2;", "8"},
@@ -602,6 +643,7 @@ public final class TextEdgeTest extends Probe {
         ownWords();
         tooSoon();
         openOnes();
+        allThree();
         formulas();
         finish();
     }
