@@ -287,6 +287,21 @@ public final class AheadEdgeTest extends Probe {
         due("odds(0) by the LINK of b", x.odds(0), 1500);
         told("units 8;thing a size 1;thing b size 1;link b to b;link b to b;link b to b;link b to a;root b;churn 100;");
         due("odds(0) by its last LINK", x.odds(0), 1500);
+        told("units 8;churn 100;");
+        for (int i = 0; i < 40; i++) {
+            x.make(1, i == 0 ? 0 : i == 1 ? 1 : i == 38 ? 2 : i == 39 ? 3 : 4);
+        }
+        x.set(38, 0, 39);
+        x.set(39, 0, 0);
+        x.set(0, 0, 1);
+        for (int r : new int[] {0, 1, 3, 4}) {
+            x.aim(r, NONE);
+        }
+        due("38 to 39 to 0 to 1", x.has(2), 4);
+        due("odds(38)", x.odds(38), 6400);
+        due("odds(39)", x.odds(39), 100 * (64 - 3));
+        due("odds(0)", x.odds(0), 100 * (64 - 2 - 3));
+        due("odds(1)", x.odds(1), 100 * (64 - 1 - 2 - 3));
         says("ODDS of 40 THINGS in a line");
         chain(40);
         due("churn is 0", x.odds(0), 640000);

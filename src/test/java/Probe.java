@@ -7,6 +7,9 @@ abstract class Probe {
     private static String sentence = "";
     private static int wrong = 0;
     private static int checked = 0;
+    // What an object answers is promised for 512 calls: a text that is told late is told to a new one.
+    private static final int MANY = 300;
+    private static int calls = 0;
 
     /** What follows tests these words of the document, on a new object. */
     static void says(String words) {
@@ -16,10 +19,12 @@ abstract class Probe {
 
     static void anew() {
         x = new TrainCollector();
+        calls = 0;
     }
 
     static void due(String call, long got, long want) {
         checked++;
+        calls++;
         if (got != want) {
             wrong++;
             System.out.println("\"" + sentence + "\": " + call + " answered " + got + ", due is " + want);
@@ -51,7 +56,11 @@ abstract class Probe {
     }
 
     static int heap(String text) {
+        if (calls > MANY) {
+            anew();
+        }
         put(x, text);
+        calls += 3 + text.length() / 20;
         return x.heap();
     }
 

@@ -633,7 +633,10 @@ public final class RefusalTest extends Probe {
             TrainCollector is = new TrainCollector();
             heap(is, image.length > 300 ? "units 8;fresh cars>4;" : FIVE);
             is.chance(3);
-            is.make(1, 1);
+            for (int i = 0; i < 5; i++) {
+                is.make(8, 1);
+            }
+            is.holder(0);
             put(is, image);
             due("on() of " + name, is.on(), true);
             TrainCollector was = new TrainCollector();

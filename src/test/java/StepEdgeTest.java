@@ -205,6 +205,8 @@ public final class StepEdgeTest extends Probe {
         for (int roots = 1; roots <= 8; roots++) {
             told("units 8;thing a size 3;thing b size 3;" + "root a;".repeat(roots));
             due("popular by " + roots, x.thing(0, 8), roots > 3 ? 1 : 0);
+            due("refs by " + roots, x.thing(0, 5), roots);
+            due("refs of the other by " + roots, x.thing(1, 5), 0);
             due("costs by " + roots, x.later(1, 3), roots > 3 ? 0 : 3);
         }
         says("refs: how many LINKS and ROOTS are to it from out of its CAR");
@@ -311,6 +313,15 @@ public final class StepEdgeTest extends Probe {
         rides(2, 0, 0, 0);
         due("c is MARKED", x.thing(2, 7), 1);
         due("0 is not", x.thing(0, 7), 0);
+        says("the first of its THINGS is MARKED: it may be that of number 0");
+        told("units 8;thing a size 1;next;thing b size 8;root b;fresh not all;");
+        due("a falls", x.steps(1), 1);
+        due("make", x.make(8, 1), 0);
+        x.set(0, 0, 1);
+        x.aim(0, NONE);
+        x.steps(1);
+        rides(1, 0, 1, 0);
+        due("0 is MARKED", x.thing(0, 7), 1);
         says("A THING that GOES or STAYS is MARKED no more; what FALLS neither");
         told("units 8;thing a size 8;thing b size 8;link b to a;root b;");
         x.steps(1);
@@ -343,6 +354,17 @@ public final class StepEdgeTest extends Probe {
         x.aim(0, NONE);
         due("nothing holds b", x.steps(1), 1);
         due("the new one stays", x.thing(0, 4), 1);
+        told("units 8;thing a size 8;next;thing b size 8;root a;root b;");
+        x.steps(9);
+        x.aim(0, NONE);
+        x.steps(2);
+        due("a fell at 9 STEPS", x.thing(0, 0), NONE);
+        due("make", x.make(1, 5), 0);
+        due("age of a new one", x.thing(0, 6), 0);
+        heldNoMore(0, 5);
+        heldNoMore(39, 5);
+        heldNoMore(5, 0);
+        heldNoMore(5, 39);
         says("a LINK set to none, or elsewhere, holds no more");
         told("units 8;thing a size 8;next;thing b size 8;link b to a;root b;");
         due("set", x.set(1, 0, NONE), true);
@@ -373,6 +395,36 @@ public final class StepEdgeTest extends Probe {
         due("refs of a", x.thing(0, 5), 1);
     }
 
+    /** One falls that had a LINK to another, and is made again: that LINK holds the other no more. */
+    private static void heldNoMore(int source, int target) {
+        anew();
+        told("units 8;fresh all;");
+        for (int i = 0; i < 40; i++) {
+            x.make(8, i == target ? 1 : i == source ? 2 : 3);
+        }
+        x.set(source, 0, target);
+        x.aim(2, NONE);
+        x.aim(3, target);
+        x.aim(3, NONE);
+        for (int n = 0; n < 200 && x.thing(source, 0) != NONE; n++) {
+            x.steps(1);
+        }
+        due("the source fell", x.thing(source, 0), NONE);
+        due("the target did not", x.thing(target, 0), 8);
+        for (int n = 0; n < 40 && x.thing(source, 0) == NONE; n++) {
+            x.make(8, 2);
+        }
+        due("made again", x.thing(source, 0), 8);
+        x.aim(1, NONE);
+        for (int n = 0; n < 40 && x.thing(target, 1) > 0; n++) {
+            x.steps(1);
+        }
+        int there = x.thing(target, 0);
+        due("the target is there", there, 8);
+        x.steps(1);
+        due("nothing holds " + target + " by the old LINK of " + source, x.thing(target, 0), NONE);
+    }
+
     // ---- many at once
 
     /** 40 THINGS, each but the first with a LINK to the one made before, the last with a ROOT. */
@@ -397,6 +449,25 @@ public final class StepEdgeTest extends Probe {
             due("age", x.thing(t, 6), 1);
         }
         due("units taken", x.car(0, 0, 1), 40);
+        says("The latest ACT is undone: of the 40th THING, too");
+        crowd("units 99;", 1);
+        x.steps(1);
+        x.aim(4, 39);
+        x.steps(3);
+        rides(39, 0, 0, 0);
+        due("age", x.thing(39, 6), 4);
+        x.set(39, 3, 39);
+        x.set(39, 1, 0);
+        due("undo()", x.undo() && x.undo(), true);
+        due("link(39, 1)", x.link(39, 1), NONE);
+        due("link(39, 3)", x.link(39, 3), 38);
+        due("undo()", x.undo(), true);
+        due("age", x.thing(39, 6), 1);
+        due("undo()", x.undo() && x.undo(), true);
+        due("age", x.thing(39, 6), 0);
+        rides(39, 0, 0, 39);
+        due("undo()", x.undo(), true);
+        due("root(0)", x.root(0), 38);
         says("a CAR of its own with all that STAY: 40 of them");
         crowd("units 99;pops all;", 1);
         due("none falls", x.steps(1), 0);
